@@ -544,7 +544,8 @@ public final class KitchenSpits {
 
     void getBrowner(int which, int more) {
       if (which >= 0 && which < brown.length) {
-        brown[which] = Math.min(MOST_BROWN, brown[which] + more);
+        int browner = brown[which] + more;
+        brown[which] = browner > MOST_BROWN ? MOST_BROWN : browner;
       }
     }
 

@@ -834,33 +834,45 @@ public final class PromisesTest {
   private static void looksAheadAgreeWithPassing() {
     for (int pounds = 1; pounds <= 12; pounds++) {
       for (int each = 0; each <= 9; each++) {
-        int done = -1;
-        int burnt = -1;
-        KitchenSpits passed = twoSpitsWarm(pounds, each);
-        for (int minutes = 0; minutes <= 200; minutes++) {
-          done = done < 0 && passed.isDone(1) ? minutes : done;
-          burnt = burnt < 0 && passed.isBurnt(1) ? minutes : burnt;
-          if (minutes < 200) {
-            passed.pass(1);
-          }
-        }
-        KitchenSpits k = twoSpitsWarm(pounds, each);
-        long before = k.digest();
-        CHECKS.due("35: " + pounds + " pounds turned each " + each, k.minutesUntilDone(1), done);
-        CHECKS.due("36: " + pounds + " pounds turned each " + each, k.minutesUntilBurnt(1), burnt);
-        CHECKS.due("35: digest() stays", k.digest(), before);
+        looksAheadAgreeWithPassing(pounds, each, 1);
+        looksAheadAgreeWithPassing(pounds, each, 2);
       }
     }
   }
 
-  /** The other roast's pan is soon full, so a look ahead must reckon with its flares. */
-  private static KitchenSpits twoSpitsWarm(int pounds, int each) {
+  private static void looksAheadAgreeWithPassing(int pounds, int each, int roast) {
+    int done = -1;
+    int burnt = -1;
+    KitchenSpits passed = twoFiresWarm(pounds, each);
+    for (int minutes = 0; minutes <= 200; minutes++) {
+      done = done < 0 && passed.isDone(roast) ? minutes : done;
+      burnt = burnt < 0 && passed.isBurnt(roast) ? minutes : burnt;
+      if (minutes < 200) {
+        passed.pass(1);
+      }
+    }
+    KitchenSpits k = twoFiresWarm(pounds, each);
+    long before = k.digest();
+    String which = roast + " of " + pounds + " pounds turned each " + each;
+    CHECKS.due("35: minutesUntilDone() " + which, k.minutesUntilDone(roast), done);
+    CHECKS.due("36: minutesUntilBurnt() " + which, k.minutesUntilBurnt(roast), burnt);
+    CHECKS.due("35: digest() stays", k.digest(), before);
+  }
+
+  /** Roast 1 is wet, roast 2 is at another fire, and roast 0 makes the first fire flare soon. */
+  private static KitchenSpits twoFiresWarm(int pounds, int each) {
     KitchenSpits k = kitchen(4, 1, 2);
+    k.addFire();
+    k.layLogs(1, 2);
+    k.addSpit(1, 1);
     k.turnEach(1, each);
+    k.turnEach(2, each);
     k.hang(0, 12);
-    k.pass(4);
+    k.pass(7);
     k.hang(1, pounds);
-    k.pass(1);
+    k.hang(2, pounds);
+    k.pass(2);
+    k.baste(1);
     return k;
   }
 
@@ -916,6 +928,32 @@ public final class PromisesTest {
     KitchenSpits cold = kitchen(1, 1);
     cold.hang(0, 12);
     CHECKS.due("38: bestEach(0) at a fire that goes out", cold.bestEach(0), -1);
+    bestEachIs9();
+  }
+
+  /** Side 0 needs all the glow of 9 minutes, after which the fire is out. */
+  private static void bestEachIs9() {
+    KitchenSpits k = kitchen(9, 3);
+    k.pass(10);
+    k.hang(0, 12);
+    k.turnNow(0);
+    k.pass(6);
+    k.turnNow(0);
+    k.pass(18);
+    k.turnNow(0);
+    k.pass(6);
+    k.turnNow(0);
+    dueBrown("38: of one that lacks side 0", k, 0, 12, 36, 66, 36);
+    k.emptyPan(0);
+    k.moveSpit(0, 2);
+    // The glows are 4, 4, 4, 3, 3, 2, 2, 1 and 1 now.
+    CHECKS.due("38: minutesUntilDone(0) not turned", k.minutesUntilDone(0), 9);
+    CHECKS.due("38: bestEach(0)", k.bestEach(0), 9);
+    k.turnEach(0, 8);
+    CHECKS.due("38: minutesUntilDone(0) turned each 8", k.minutesUntilDone(0), -1);
+    CHECKS.due("38: bestEach(0)", k.bestEach(0), 9);
+    k.pass(1);
+    CHECKS.due("38: bestEach(0) with 8 minutes lacking", k.bestEach(0), 8);
   }
 
   private static void bestEachAgreesWithTrying() {
@@ -1071,7 +1109,15 @@ public final class PromisesTest {
       k.pass(1);
       dueDigest(k);
     }
-    CHECKS.due("41: one was done", k.isDone(2) || k.isBurnt(2), true);
+    KitchenSpits done = hot(1);
+    done.turnEach(0, 1);
+    done.hang(0, 1);
+    done.pass(2);
+    CHECKS.due("41: one is done", done.isDone(0), true);
+    dueDigest(done);
+    done.pass(20);
+    CHECKS.due("41: one is burnt", done.isBurnt(0), true);
+    dueDigest(done);
     CHECKS.due("41: digest() again", k.digest(), k.digest());
     dueDigest(withAllRoastsHung(1, 2));
   }
