@@ -501,7 +501,7 @@ public final class KitchenSpits {
       return each > 0 && count % each == 0;
     }
 
-    boolean catches() {
+    boolean takesDripping() {
       if (drippings >= MOST_DRIPPINGS) {
         return false;
       }
@@ -713,7 +713,7 @@ public final class KitchenSpits {
         return false;
       }
       int got = roast.getGlow(glowOf(spit));
-      boolean flares = roast.drips(got) && !spit.catches();
+      boolean flares = roast.drips(got) && !spit.takesDripping();
       if (flares) {
         fire.flares++;
       }
