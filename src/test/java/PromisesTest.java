@@ -43,35 +43,6 @@ public final class PromisesTest {
     CHECKS.end("PromisesTest");
   }
 
-  // ---- kitchens to begin with.
-
-  /** One fire with logs, and a spit at each of these feet. */
-  private static KitchenSpits kitchen(int logs, int... feet) {
-    KitchenSpits k = new KitchenSpits();
-    k.addFire();
-    k.layLogs(0, logs);
-    for (int f : feet) {
-      k.addSpit(0, f);
-    }
-    return k;
-  }
-
-  /** At the minute 9 with a heat of 9 and 38 logs, which burn up to the minute 195. */
-  private static KitchenSpits hot(int... feet) {
-    KitchenSpits k = kitchen(40, feet);
-    k.pass(9);
-    return k;
-  }
-
-  private static KitchenSpits withAllRoastsHung(int... feet) {
-    KitchenSpits k = hot(feet);
-    for (int i = 0; i < 16; i++) {
-      k.hang(0, 1);
-      k.takeDown(0);
-    }
-    return k;
-  }
-
   private static void dueBrown(String when, KitchenSpits k, int roast, int... want) {
     for (int side = 0; side < 4; side++) {
       CHECKS.due("brownOf(" + roast + ", " + side + ") " + when, k.brownOf(roast, side), want[side]);
@@ -105,7 +76,7 @@ public final class PromisesTest {
     }
     CHECKS.refused("2: addFire() with 3", k, STATE, k::addFire);
     CHECKS.due("2: fires() behind it", k.fires(), 3);
-    KitchenSpits later = hot();
+    KitchenSpits later = Kitchens.hot();
     CHECKS.due("2: addFire() later", later.addFire(), 1);
     CHECKS.due("2: heatOf() of one added later", later.heatOf(1), 0);
   }
@@ -126,7 +97,7 @@ public final class PromisesTest {
       CHECKS.refused("3: layLogs(" + fire + ", 5)", k, BOUNDS, () -> k.layLogs(fire, 5));
       CHECKS.refused("3: layLogs(" + fire + ", 0)", k, BOUNDS, () -> k.layLogs(fire, 0));
     }
-    KitchenSpits few = kitchen(7);
+    KitchenSpits few = Kitchens.kitchen(7);
     for (int logs : Checks.beside(1, 40)) {
       CHECKS.refused("3: layLogs(0, " + logs + ")", few, ARGUMENT, () -> few.layLogs(0, logs));
     }
@@ -162,7 +133,7 @@ public final class PromisesTest {
   }
 
   private static void moveSpit() {
-    KitchenSpits k = hot(1, 2);
+    KitchenSpits k = Kitchens.hot(1, 2);
     CHECKS.due("5: moveSpit(0, 3)", k.moveSpit(0, 3), 1);
     CHECKS.due("5: feetOf(0)", k.feetOf(0), 3);
     CHECKS.due("5: glowAt(0)", k.glowAt(0), 3);
@@ -181,7 +152,7 @@ public final class PromisesTest {
   }
 
   private static void turnEach() {
-    KitchenSpits k = kitchen(1, 1, 1);
+    KitchenSpits k = Kitchens.kitchen(1, 1, 1);
     CHECKS.due("6: turnEach(0, 9)", k.turnEach(0, 9), 0);
     CHECKS.due("6: turnEach(0, 3)", k.turnEach(0, 3), 9);
     CHECKS.due("6: turnEach(0, 0)", k.turnEach(0, 0), 3);
@@ -223,7 +194,7 @@ public final class PromisesTest {
   // ---- promises 8 to 13: roasts.
 
   private static void hang() {
-    KitchenSpits k = hot(1, 1, 1);
+    KitchenSpits k = Kitchens.hot(1, 1, 1);
     CHECKS.due("8: hang(1, 12)", k.hang(1, 12), 0);
     CHECKS.due("8: hang(0, 1)", k.hang(0, 1), 1);
     CHECKS.due("8: roasts()", k.roasts(), 2);
@@ -250,7 +221,7 @@ public final class PromisesTest {
   }
 
   private static void hangUpTo16() {
-    KitchenSpits k = hot(1);
+    KitchenSpits k = Kitchens.hot(1);
     for (int roast = 0; roast < 16; roast++) {
       CHECKS.due("8: hang(0, 1)", k.hang(0, 1), roast);
       CHECKS.due("8: takeDown(0)", k.takeDown(0), roast);
@@ -262,7 +233,7 @@ public final class PromisesTest {
   }
 
   private static void hangBeginsTheCount() {
-    KitchenSpits k = kitchen(1, 1);
+    KitchenSpits k = Kitchens.kitchen(1, 1);
     k.turnEach(0, 4);
     k.hang(0, 2);
     k.pass(3);
@@ -280,7 +251,7 @@ public final class PromisesTest {
   }
 
   private static void turnNow() {
-    KitchenSpits k = kitchen(1, 1, 1);
+    KitchenSpits k = Kitchens.kitchen(1, 1, 1);
     k.turnEach(0, 3);
     k.hang(0, 4);
     k.pass(2);
@@ -300,7 +271,7 @@ public final class PromisesTest {
   }
 
   private static void baste() {
-    KitchenSpits k = hot(1, 1);
+    KitchenSpits k = Kitchens.hot(1, 1);
     k.hang(0, 12);
     CHECKS.refused("10: baste(0) with no drippings", k, STATE, () -> k.baste(0));
     k.pass(1);
@@ -326,7 +297,7 @@ public final class PromisesTest {
   }
 
   private static void takeDown() {
-    KitchenSpits k = hot(1, 1);
+    KitchenSpits k = Kitchens.hot(1, 1);
     k.turnEach(0, 1);
     k.hang(1, 5);
     k.hang(0, 7);
@@ -354,7 +325,7 @@ public final class PromisesTest {
   }
 
   private static void emptyPan() {
-    KitchenSpits k = hot(1, 1);
+    KitchenSpits k = Kitchens.hot(1, 1);
     k.hang(0, 12);
     k.hang(1, 12);
     CHECKS.due("12: emptyPan(0) of an empty one", k.emptyPan(0), 0);
@@ -370,7 +341,7 @@ public final class PromisesTest {
   }
 
   private static void pass() {
-    KitchenSpits k = kitchen(5, 1);
+    KitchenSpits k = Kitchens.kitchen(5, 1);
     k.hang(0, 3);
     for (int minutes : Checks.beside(1, 200)) {
       CHECKS.refused("13: pass(" + minutes + ")", k, ARGUMENT, () -> k.pass(minutes));
@@ -385,7 +356,7 @@ public final class PromisesTest {
   }
 
   private static void passGivesGlow() {
-    KitchenSpits k = hot(1, 2, 3);
+    KitchenSpits k = Kitchens.hot(1, 2, 3);
     k.hang(0, 12);
     k.hang(1, 12);
     k.hang(2, 12);
@@ -402,7 +373,7 @@ public final class PromisesTest {
     dueBrown("up to 99", k, 0, 72, 3, 63, 99);
     k.pass(20);
     dueBrown("up to 99 on all three", k, 0, 99, 3, 99, 99);
-    KitchenSpits cold = kitchen(40, 1);
+    KitchenSpits cold = Kitchens.kitchen(40, 1);
     cold.hang(0, 12);
     cold.pass(1);
     dueBrown("with the heat ahead of the minute", cold, 0, 0, 0, 0, 0);
@@ -413,7 +384,7 @@ public final class PromisesTest {
   }
 
   private static void passGivesLessGlowToTheWet() {
-    KitchenSpits k = hot(1);
+    KitchenSpits k = Kitchens.hot(1);
     k.hang(0, 12);
     k.pass(2);
     k.baste(0);
@@ -432,7 +403,7 @@ public final class PromisesTest {
   }
 
   private static void wetWithoutGlow() {
-    KitchenSpits k = kitchen(1, 1, 1);
+    KitchenSpits k = Kitchens.kitchen(1, 1, 1);
     k.addFire();
     k.addSpit(1, 1);
     k.layLogs(1, 1);
@@ -451,7 +422,7 @@ public final class PromisesTest {
   }
 
   private static void wetWithAGlowOf2() {
-    KitchenSpits k = hot(1);
+    KitchenSpits k = Kitchens.hot(1);
     k.hang(0, 12);
     k.pass(2);
     k.moveSpit(0, 3);
@@ -459,7 +430,7 @@ public final class PromisesTest {
     k.pass(1);
     CHECKS.due("13: fatOf(0) of one that got 2", k.fatOf(0), 33);
     CHECKS.due("13: drippingsOf(0)", k.drippingsOf(0), 1);
-    KitchenSpits cool = kitchen(2, 1);
+    KitchenSpits cool = Kitchens.kitchen(2, 1);
     cool.pass(6);
     cool.hang(0, 12);
     // The heats of the next minutes are 6, 5, 4, 3, 2, 1 and 0.
@@ -473,7 +444,7 @@ public final class PromisesTest {
   }
 
   private static void passDripsAndFlares() {
-    KitchenSpits k = hot(1);
+    KitchenSpits k = Kitchens.hot(1);
     k.hang(0, 12);
     CHECKS.due("13: pass(19)", k.pass(19), 0);
     CHECKS.due("13: drippingsOf(0)", k.drippingsOf(0), 19);
@@ -494,7 +465,7 @@ public final class PromisesTest {
   }
 
   private static void glowOf1Drips() {
-    KitchenSpits k = kitchen(1, 1);
+    KitchenSpits k = Kitchens.kitchen(1, 1);
     k.hang(0, 2);
     k.pass(3);
     dueBrown("of one that got 0, 1 and 0", k, 0, 1, 0, 0, 0);
@@ -503,7 +474,7 @@ public final class PromisesTest {
   }
 
   private static void flaresHeat() {
-    KitchenSpits k = kitchen(6, 1, 1);
+    KitchenSpits k = Kitchens.kitchen(6, 1, 1);
     k.addFire();
     k.pass(6);
     k.hang(0, 12);
@@ -522,7 +493,7 @@ public final class PromisesTest {
   }
 
   private static void twoFlaresInAMinute() {
-    KitchenSpits k = kitchen(5, 1, 1);
+    KitchenSpits k = Kitchens.kitchen(5, 1, 1);
     k.hang(0, 12);
     k.hang(1, 12);
     // Both got 2 or more from the minute 2 on; the last log burnt in the minute 20.
@@ -547,7 +518,7 @@ public final class PromisesTest {
   }
 
   private static void passTurns() {
-    KitchenSpits k = kitchen(1, 1, 1, 1);
+    KitchenSpits k = Kitchens.kitchen(1, 1, 1, 1);
     k.turnEach(0, 1);
     k.turnEach(1, 9);
     for (int spit = 0; spit < 3; spit++) {
@@ -562,7 +533,7 @@ public final class PromisesTest {
     k.takeDown(0);
     k.pass(3);
     CHECKS.due("13: side of one taken down", k.sideToFire(0), 0);
-    KitchenSpits glowing = hot(1);
+    KitchenSpits glowing = Kitchens.hot(1);
     glowing.hang(0, 6);
     glowing.turnEach(0, 1);
     glowing.pass(2);
@@ -570,7 +541,7 @@ public final class PromisesTest {
   }
 
   private static void passHeats() {
-    KitchenSpits k = kitchen(2);
+    KitchenSpits k = Kitchens.kitchen(2);
     k.addFire();
     int[] heats = {1, 2, 3, 4, 5, 6, 5, 4, 3, 2, 1, 0, 0, 0};
     int[] logs = {1, 1, 1, 1, 1, 0, 0, 0, 0, 0, 0, 0, 0, 0};
@@ -610,7 +581,7 @@ public final class PromisesTest {
   }
 
   private static void firesAndTheirs() {
-    KitchenSpits k = kitchen(9);
+    KitchenSpits k = Kitchens.kitchen(9);
     k.addFire();
     CHECKS.due("16: fires()", k.fires(), 2);
     k.pass(3);
@@ -675,7 +646,7 @@ public final class PromisesTest {
   }
 
   private static void roastsAndTheirs() {
-    KitchenSpits k = hot(1, 2);
+    KitchenSpits k = Kitchens.hot(1, 2);
     CHECKS.due("26: roasts()", k.roasts(), 0);
     k.hang(1, 4);
     k.hang(0, 9);
@@ -701,7 +672,7 @@ public final class PromisesTest {
     CHECKS.due("28: spitOf(0) taken down", k.spitOf(0), -1);
     CHECKS.due("29: sideToFire(0), the last one", k.sideToFire(0), 1);
     refusedOutsideRoasts(k, 3);
-    refusedOutsideRoasts(withAllRoastsHung(1), 16);
+    refusedOutsideRoasts(Kitchens.withAllRoastsHung(1), 16);
     refusedOutsideRoasts(new KitchenSpits(), 0);
   }
 
@@ -727,14 +698,13 @@ public final class PromisesTest {
   }
 
   private static void isDoneAndIsBurnt() {
-    KitchenSpits k = hot(3);
+    KitchenSpits k = Kitchens.hot(3);
     k.turnEach(0, 1);
     k.hang(0, 4);
     // With 12 to 42 brown it is done; the glow of 3 gives 3, 1 and 1 in each minute.
-    int[][] browns = new int[120][];
     boolean wasDone = false;
     boolean wasBurnt = false;
-    for (int i = 0; i < browns.length; i++) {
+    for (int minute = 0; minute < 60; minute++) {
       boolean done = true;
       boolean burnt = false;
       for (int side = 0; side < 4; side++) {
@@ -742,8 +712,8 @@ public final class PromisesTest {
         done &= brown >= 12 && brown <= 42;
         burnt |= brown > 42;
       }
-      CHECKS.due("33: isDone(0) at " + k.minute(), k.isDone(0), done);
-      CHECKS.due("34: isBurnt(0) at " + k.minute(), k.isBurnt(0), burnt);
+      CHECKS.due("33: isDone(0) " + minute + " minutes behind", k.isDone(0), done);
+      CHECKS.due("34: isBurnt(0) " + minute + " minutes behind", k.isBurnt(0), burnt);
       wasDone |= done;
       wasBurnt |= burnt;
       k.pass(1);
@@ -751,7 +721,7 @@ public final class PromisesTest {
     CHECKS.due("33: it was done", wasDone, true);
     CHECKS.due("34: it was burnt", wasBurnt, true);
     doneAndBurntAtTheEdges();
-    KitchenSpits raw = hot(1);
+    KitchenSpits raw = Kitchens.hot(1);
     raw.hang(0, 1);
     CHECKS.due("33: isDone(0) of a raw one", raw.isDone(0), false);
     CHECKS.due("34: isBurnt(0) of a raw one", raw.isBurnt(0), false);
@@ -762,7 +732,7 @@ public final class PromisesTest {
 
   private static void doneAndBurntAtTheEdges() {
     // A pound is done with 3 to 33 on each side; two sides in turn get 9 and 3 from a glow of 9.
-    KitchenSpits k = hot(1);
+    KitchenSpits k = Kitchens.hot(1);
     k.hang(0, 1);
     k.pass(2);
     k.turnNow(0);
@@ -788,7 +758,7 @@ public final class PromisesTest {
   // ---- promises 35 to 41: what would be.
 
   private static void minutesUntilDone() {
-    KitchenSpits k = hot(1);
+    KitchenSpits k = Kitchens.hot(1);
     k.hang(0, 1);
     CHECKS.due("35: minutesUntilDone(0) not turned", k.minutesUntilDone(0), -1);
     k.turnEach(0, 1);
@@ -811,7 +781,7 @@ public final class PromisesTest {
   }
 
   private static void minutesUntilBurnt() {
-    KitchenSpits k = hot(1);
+    KitchenSpits k = Kitchens.hot(1);
     k.hang(0, 1);
     // Behind 4 minutes 36 brown, which is more than 33.
     CHECKS.due("36: minutesUntilBurnt(0)", k.minutesUntilBurnt(0), 4);
@@ -826,7 +796,7 @@ public final class PromisesTest {
     k.hang(0, 1);
     k.takeDown(0);
     CHECKS.due("36: minutesUntilBurnt(1) of one taken down raw", k.minutesUntilBurnt(1), -1);
-    KitchenSpits cold = kitchen(1, 1);
+    KitchenSpits cold = Kitchens.kitchen(1, 1);
     cold.hang(0, 1);
     CHECKS.due("36: minutesUntilBurnt(0) at a fire that goes out", cold.minutesUntilBurnt(0), -1);
   }
@@ -841,16 +811,8 @@ public final class PromisesTest {
   }
 
   private static void looksAheadAgreeWithPassing(int pounds, int each, int roast) {
-    int done = -1;
-    int burnt = -1;
-    KitchenSpits passed = twoFiresWarm(pounds, each);
-    for (int minutes = 0; minutes <= 200; minutes++) {
-      done = done < 0 && passed.isDone(roast) ? minutes : done;
-      burnt = burnt < 0 && passed.isBurnt(roast) ? minutes : burnt;
-      if (minutes < 200) {
-        passed.pass(1);
-      }
-    }
+    int done = Kitchens.passUntilDone(twoFiresWarm(pounds, each), roast);
+    int burnt = Kitchens.passUntilBurnt(twoFiresWarm(pounds, each), roast);
     KitchenSpits k = twoFiresWarm(pounds, each);
     long before = k.digest();
     String which = roast + " of " + pounds + " pounds turned each " + each;
@@ -861,7 +823,7 @@ public final class PromisesTest {
 
   /** Roast 1 is wet, roast 2 is at another fire, and roast 0 makes the first fire flare soon. */
   private static KitchenSpits twoFiresWarm(int pounds, int each) {
-    KitchenSpits k = kitchen(4, 1, 2);
+    KitchenSpits k = Kitchens.kitchen(4, 1, 2);
     k.addFire();
     k.layLogs(1, 2);
     k.addSpit(1, 1);
@@ -877,7 +839,7 @@ public final class PromisesTest {
   }
 
   private static void doneAtFeast() {
-    KitchenSpits k = hot(1, 1, 1);
+    KitchenSpits k = Kitchens.hot(1, 1, 1);
     k.setFeast(11);
     CHECKS.due("37: doneAtFeast() without roasts", k.doneAtFeast(), 0);
     for (int spit = 0; spit < 3; spit++) {
@@ -911,7 +873,7 @@ public final class PromisesTest {
   }
 
   private static void bestEach() {
-    KitchenSpits k = hot(1, 1);
+    KitchenSpits k = Kitchens.hot(1, 1);
     CHECKS.due("38: bestEach(1) without a roast", k.bestEach(1), -1);
     k.hang(0, 1);
     CHECKS.due("38: bestEach(0)", k.bestEach(0), 1);
@@ -925,7 +887,7 @@ public final class PromisesTest {
     k.hang(1, 1);
     k.pass(2);
     CHECKS.due("38: bestEach(1) of one that is done", k.bestEach(1), 1);
-    KitchenSpits cold = kitchen(1, 1);
+    KitchenSpits cold = Kitchens.kitchen(1, 1);
     cold.hang(0, 12);
     CHECKS.due("38: bestEach(0) at a fire that goes out", cold.bestEach(0), -1);
     bestEachIs9();
@@ -933,7 +895,7 @@ public final class PromisesTest {
 
   /** Side 0 needs all the glow of 9 minutes, after which the fire is out. */
   private static void bestEachIs9() {
-    KitchenSpits k = kitchen(9, 3);
+    KitchenSpits k = Kitchens.kitchen(9, 3);
     k.pass(10);
     k.hang(0, 12);
     k.turnNow(0);
@@ -995,7 +957,7 @@ public final class PromisesTest {
 
   /** Turned each 3 minutes so far, so its count is not 0 most often. */
   private static KitchenSpits turnedBefore(int logs, int pounds, int ahead) {
-    KitchenSpits k = kitchen(logs, 1);
+    KitchenSpits k = Kitchens.kitchen(logs, 1);
     k.pass(6);
     k.turnEach(0, 3);
     k.hang(0, pounds);
@@ -1008,7 +970,7 @@ public final class PromisesTest {
   private static void bestSpit() {
     KitchenSpits none = new KitchenSpits();
     CHECKS.due("39: bestSpit(1) without spits", none.bestSpit(1), -1);
-    KitchenSpits k = hot(3, 1, 2, 1);
+    KitchenSpits k = Kitchens.hot(3, 1, 2, 1);
     CHECKS.due("39: bestSpit(1) with no spit turned", k.bestSpit(1), -1);
     for (int spit = 0; spit < 4; spit++) {
       k.turnEach(spit, 1);
@@ -1029,7 +991,7 @@ public final class PromisesTest {
     k.hang(0, 2);
     k.hang(2, 2);
     CHECKS.due("39: bestSpit(1) when all have roasts", k.bestSpit(1), -1);
-    KitchenSpits full = withAllRoastsHung(1);
+    KitchenSpits full = Kitchens.withAllRoastsHung(1);
     full.turnEach(0, 1);
     CHECKS.refused("39: bestSpit(1) behind 16", full, STATE, () -> full.bestSpit(1));
     CHECKS.refused("39: bestSpit(0) behind 16", full, ARGUMENT, () -> full.bestSpit(0));
@@ -1059,7 +1021,7 @@ public final class PromisesTest {
   }
 
   private static KitchenSpits sixSpits(int ahead) {
-    KitchenSpits k = kitchen(3, 3, 2, 1);
+    KitchenSpits k = Kitchens.kitchen(3, 3, 2, 1);
     k.addFire();
     k.addSpit(1, 1);
     k.addSpit(1, 1);
@@ -1077,7 +1039,7 @@ public final class PromisesTest {
   }
 
   private static void meanBrown() {
-    KitchenSpits k = hot(1, 1);
+    KitchenSpits k = Kitchens.hot(1, 1);
     CHECKS.dueDouble("40: meanBrown() without roasts", k.meanBrown(), 0);
     k.hang(0, 2);
     CHECKS.dueDouble("40: meanBrown() of a raw one", k.meanBrown(), 0);
@@ -1105,11 +1067,11 @@ public final class PromisesTest {
     k.hang(4, 1);
     k.turnEach(4, 1);
     dueDigest(k);
-    for (int i = 0; i < 12; i++) {
-      k.pass(1);
+    for (int i = 0; i < 4; i++) {
+      k.pass(3);
       dueDigest(k);
     }
-    KitchenSpits done = hot(1);
+    KitchenSpits done = Kitchens.hot(1);
     done.turnEach(0, 1);
     done.hang(0, 1);
     done.pass(2);
@@ -1119,7 +1081,7 @@ public final class PromisesTest {
     CHECKS.due("41: one is burnt", done.isBurnt(0), true);
     dueDigest(done);
     CHECKS.due("41: digest() again", k.digest(), k.digest());
-    dueDigest(withAllRoastsHung(1, 2));
+    dueDigest(Kitchens.withAllRoastsHung(1, 2));
   }
 
   private static void dueDigest(KitchenSpits k) {
